@@ -1107,10 +1107,16 @@ public final class SteadyMachine {
         static final int CALLER = 3;
         static final int VALUES = 4;
 
+        /** How many items a row without children has, and how many children one with children. */
+        static final int ITEMS_EACH = 15;
+        static final int ITEMS_MOST = ITEMS_EACH * ITEMS_EACH * ITEMS_EACH;
+
         private final Classes classes;
         private final Methods methods;
+        /** Both halves, one behind the other, from address 1 on. */
         private long[] cells = new long[0];
         private int half;
+        /** Where the half in use begins. */
         private int base;
         /** Moved cells lie from base to here; those below scanned lead to moved and made cells alone. */
         private int free;
@@ -1130,10 +1136,6 @@ public final class SteadyMachine {
             this.classes = classes;
             this.methods = methods;
         }
-
-        /** How many items a row without children has, and how many children one with children. */
-        static final int ITEMS_EACH = 15;
-        static final int ITEMS_MOST = ITEMS_EACH * ITEMS_EACH * ITEMS_EACH;
 
         static int rowLength(long head) {
             return (int) head & 4095;
@@ -1218,7 +1220,7 @@ public final class SteadyMachine {
             return cell >> 32 == REFERENCE && a != 0 && (a < base || a >= base + half);
         }
 
-        /** A cell that a run may hold on to. */
+        /** A cell whose value the run may hold on to: what it leads to is moved first. */
         long read(int a) {
             long cell = look(a);
             if (leadsBack(cell)) {
@@ -1228,7 +1230,7 @@ public final class SteadyMachine {
             return cell;
         }
 
-        /** What the cell led to as the cycle began must still be found. */
+        /** What the cell led to as the cycle began was reached then: it is moved before it is lost. */
         void change(int a, long cell) {
             read(a);
             put(a, cell);
@@ -1267,7 +1269,10 @@ public final class SteadyMachine {
             return to;
         }
 
-        /** The address of so many new cells, or 0 when there is no room; a new cycle moves the top frame. */
+        /**
+         * The address of so many new cells, or 0 when there is no room. A new cycle moves the top frame; nothing flies
+         * then, for a step in which something does makes no cells.
+         */
         int make(int n) {
             if (isDone()) {
                 if (moved() > limit) {

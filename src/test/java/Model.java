@@ -16,6 +16,7 @@ import java.util.TreeSet;
  */
 final class Model {
     private static final class Wrong extends RuntimeException {
+        private static final long serialVersionUID = 1L;
         final int place;
 
         Wrong(int place) {
