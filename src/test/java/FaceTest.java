@@ -12,6 +12,7 @@ public final class FaceTest {
         running();
         uncaught();
         counting();
+        earlierImages();
         DUE.finish();
     }
 
@@ -244,5 +245,32 @@ public final class FaceTest {
             DUE.due("told(" + what + ")", x.told(what), -1);
         }
         DUE.due("told(5)", x.told(5), -1);
+    }
+
+    /** Nothing of an earlier image, which had more of everything, is left in a later one. */
+    private static void earlierImages() {
+        Code end = new Code().op(Op.RETURN);
+        Maker more = new Maker().kind(255, Maker.types(0, 1), 3, 2).kind(0, Maker.types(1)).thrown(1, 1, 1, 1, 1)
+            .method(2, 2, new Code().op(Op.IN, Op.IN, Op.POP, Op.POP, Op.RETURN)).method(0, 0, end)
+            .method(0, Maker.types(), 255, 1, 0, end);
+        Maker less = new Maker().kind(255, Maker.types()).method(1, 1, new Code().op(Op.NULL, Op.POP, Op.RETURN));
+        SteadyMachine x = new SteadyMachine();
+        DUE.due("more", more.load(x), 7);
+        DUE.due("less", less.load(x), 3);
+        DUE.due("classes", x.count(5), 1);
+        DUE.due("methods", x.count(6), 1);
+        DUE.due("another method", x.stands(1, 0, 0, 0), -1);
+        DUE.due("its instructions", x.stands(0, 3, 0, 0), -1);
+        DUE.due("more", more.load(x), 7);
+        DUE.due("a first method that is none", less.first(1).load(x), -3 - 21);
+        more.load(x);
+        int[] field = new Maker().kind(255, Maker.types()).method(0, 1, new Code().op(Op.NULL, Op.GET, 0, 0)).image();
+        DUE.due("a field that is none", Maker.load(x, field), -3 - 20);
+        more.load(x);
+        int[] slot = new Maker().kind(255, Maker.types()).method(0, 1, new Code().op(Op.NULL, Op.SEND, 0, 3)).image();
+        DUE.due("a slot that is none", Maker.load(x, slot), -3 - 20);
+        more.load(x);
+        int[] call = new Maker().kind(255, Maker.types()).method(0, 1, new Code().op(Op.CALL, 1, Op.RETURN)).image();
+        DUE.due("a method that is none", Maker.load(x, call), -3 - 18);
     }
 }

@@ -15,6 +15,7 @@ public final class RoomTest {
         reversed();
         noRoomForFault();
         steadyFrames();
+        newCells();
         DUE.finish();
     }
 
@@ -227,5 +228,34 @@ public final class RoomTest {
             DUE.due("there were cycles", x.told(0) > 3, true);
             DUE.due("steady()", x.steady(), true);
         }
+    }
+
+    /** Cells are used again cycle by cycle, and what is new in them is 0 or nothing. */
+    private static void newCells() {
+        Code code = new Code().mark("a").number(100).op(Op.ROW, 0, Op.STORE, 0).number(100).op(Op.ROW, 1, Op.STORE, 1)
+            .op(Op.NEW, 0, Op.STORE, 2).op(Op.LOAD, 0).number(50).number(9).op(Op.TO, Op.LOAD, 1).number(50)
+            .op(Op.LOAD, 2, Op.TO, Op.LOAD, 2).number(8).op(Op.PUT, 0, 0, Op.LOAD, 2, Op.LOAD, 2, Op.PUT, 0, 1)
+            .op(Op.CALL, 1).jump(Op.GOTO, "a");
+        Code called = new Code().number(7).op(Op.STORE, 0, Op.NEW, 0, Op.STORE, 1, Op.RETURN);
+        SteadyMachine x = started(new Maker().kind(255, WIDE).method(3, 3, code).method(2, 1, called), 1024, 3);
+        for (int i = 0; i < 200; i++) {
+            DUE.due("up to the new object", x.run(8), 8);
+            for (int item = 1; item <= 100; item++) {
+                DUE.due("an int item", x.value(0, 0, item, 1), 0);
+                DUE.due("an item", x.value(0, 1, item, 0), 1);
+            }
+            DUE.due("its int", x.value(0, 2, 1, 1), 0);
+            DUE.due("its reference", x.value(0, 2, 2, 0), 1);
+            DUE.due("up to the call", x.run(16), 16);
+            for (int item = 46; item <= 60; item++) {
+                DUE.due("an int item of the child", x.value(0, 0, item, 1), item == 51 ? 9 : 0);
+                DUE.due("an item of the child", x.value(0, 1, item, 0), item == 51 ? 2 : 1);
+            }
+            x.run(1);
+            DUE.due("the new frame's local", x.value(0, 0, 0, 1), 0);
+            DUE.due("another one, an int", x.value(0, 1, 0, 0), 0);
+            DUE.due("up to the end", x.run(6), 6);
+        }
+        DUE.due("there were cycles", x.told(0) > 10, true);
     }
 }
