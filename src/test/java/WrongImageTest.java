@@ -21,6 +21,7 @@ public final class WrongImageTest {
         whole.order();
         codeLengths();
         inherited();
+        largest();
         DUE.finish();
     }
 
@@ -223,5 +224,48 @@ public final class WrongImageTest {
         DUE.due("a first method that gives", firstGives.load(new SteadyMachine()), -3 - 20);
         Maker firstOwned = new Maker().kind(255, new int[0]).method(0, new int[0], 255, 1, 0, end);
         DUE.due("a first method with owner", firstOwned.load(new SteadyMachine()), -3 - 19);
+    }
+
+    /** 32 classes, each below the one before, and 64 methods, with as much code as 8,000 bytes have room for. */
+    private static void largest() {
+        Maker maker = new Maker();
+        for (int c = 0; c < 32; c++) {
+            maker.kind(c == 0 ? 255 : c - 1, c < 15 ? Maker.types(c % 2 == 0 ? 32 : 96) : Maker.types(), c % 16, c);
+        }
+        maker.thrown(31, 31, 31, 31, 31);
+        int instructions = 0;
+        for (int m = 0; m < 63; m++) {
+            Code code = new Code().op(Op.NEW, 31, Op.GET, 31, 14, Op.STORE, 1, Op.LOAD, 0, Op.STORE, 1);
+            int pairs = m == 62 ? 480 : 43;
+            for (int i = 0; i < pairs; i++) {
+                code.op(Op.NULL, Op.POP);
+            }
+            maker.method(Math.min(m, 31), Maker.types(), 255, 2, 1, code.op(Op.RETURN));
+            instructions += 6 + 2 * pairs;
+        }
+        maker.method(11, 1, new Code().op(Op.NEW, 31, Op.CALL, 62, Op.NEW, 31, Op.SEND, 31, 15, Op.RETURN)).first(63);
+        int[] image = maker.image();
+        SteadyMachine x = new SteadyMachine();
+        DUE.due("the image is large", image.length > 7700 && image.length <= 8000, true);
+        DUE.due("the largest image", Maker.load(x, image), instructions + 5);
+        DUE.due("classes", x.count(5), 32);
+        DUE.due("methods", x.count(6), 64);
+        DUE.due("a class", x.stands(62, 5, 2, 0), 32);
+        DUE.due("a class above", x.stands(31, 9, 2, 0), 32);
+        DUE.due("the first parameter", x.stands(0, 0, 1, 0), 1);
+        x.start(0, 0);
+        DUE.due("run", x.run(20000), 1 + 1 + 966 + 1 + 1 + 92 + 1);
+        DUE.due("state()", x.state(), 2);
+        Code end = new Code().op(Op.RETURN);
+        Maker many = new Maker();
+        for (int c = 0; c < 32; c++) {
+            many.kind(255, Maker.types(c == 0 ? 97 : 0));
+        }
+        DUE.due("a row of class 32", many.method(0, 0, end).load(new SteadyMachine()), -3 - 3);
+        Maker other = new Maker();
+        for (int c = 0; c < 32; c++) {
+            other.kind(255, Maker.types(c == 1 ? 33 : 0));
+        }
+        DUE.due("class 32", other.method(0, 0, end).load(new SteadyMachine()), -3 - 7);
     }
 }
