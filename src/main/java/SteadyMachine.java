@@ -673,7 +673,6 @@ public final class SteadyMachine {
         private byte[] types = new byte[0];
         private boolean[] marked = new boolean[0];
         private final int[] now = new int[PLACES];
-        private final int[] caught = new int[PLACES];
         private int height;
         private int method;
         private int locals;
@@ -727,7 +726,7 @@ public final class SteadyMachine {
                 now[i] = i < methods.params[m] ? methods.paramType[m * PARAMS_MOST + i] : UNUSABLE;
             }
             lowestMark = methods.code[m];
-            come(methods.code[m], now, 0);
+            come(methods.code[m], 0);
             for (int i = 0; i < LOOKS_MOST && bad == NONE; i++) {
                 int p = firstMarked();
                 if (p == NONE) {
@@ -750,14 +749,12 @@ public final class SteadyMachine {
         }
 
         private void lookAt(int p) {
-            height = heights[p];
-            for (int i = 0; i < locals + height; i++) {
-                now[i] = types[p * PLACES + i];
-            }
             comeToHandlers(p);
             if (bad != NONE) {
                 return;
             }
+            // Not before its handlers: one whose place is p itself changes what stands there.
+            takeWhatStands(p);
             int op = image.at(p);
             fits = true;
             apply(op, p);
@@ -768,11 +765,18 @@ public final class SteadyMachine {
                 return;
             }
             if (goesOn) {
-                come(next, now, height);
+                come(next, height);
             }
             int jump = image.jumpPlace(p);
             if (jump != NONE && bad == NONE) {
-                come(methods.code[method] + image.pair(jump), now, height);
+                come(methods.code[method] + image.pair(jump), height);
+            }
+        }
+
+        private void takeWhatStands(int p) {
+            height = heights[p];
+            for (int i = 0; i < locals + height; i++) {
+                now[i] = types[p * PLACES + i];
             }
         }
 
@@ -785,14 +789,15 @@ public final class SteadyMachine {
                         bad = p;
                         return;
                     }
-                    System.arraycopy(now, 0, caught, 0, locals);
-                    caught[locals] = image.at(h + 4) + 1;
-                    come(methods.code[method] + image.pair(h + 5), caught, 1);
+                    takeWhatStands(p);
+                    now[locals] = image.at(h + 4) + 1;
+                    come(methods.code[method] + image.pair(h + 5), 1);
                 }
             }
         }
 
-        private void come(int p, int[] with, int high) {
+        /** What now is, with a stack so high, comes to a place. */
+        private void come(int p, int high) {
             boolean isNew = heights[p] == NONE;
             boolean changes = isNew;
             if (isNew) {
@@ -803,7 +808,7 @@ public final class SteadyMachine {
             }
             for (int i = 0; i < locals + high; i++) {
                 int had = types[p * PLACES + i];
-                int has = isNew ? with[i] : meet(had, with[i]);
+                int has = isNew ? now[i] : meet(had, now[i]);
                 if (i >= locals && has == UNUSABLE) {
                     bad = p;
                     return;

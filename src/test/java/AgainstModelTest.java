@@ -9,6 +9,7 @@ public final class AgainstModelTest {
     private Model y;
     private final int[] outcomes = new int[5];
     private int taken;
+    private int tangled;
     private int longest;
 
     public static void main(String[] args) {
@@ -18,8 +19,9 @@ public final class AgainstModelTest {
         for (int seed = first; seed < first + programs && test.due.allAsDue(); seed++) {
             test.program(seed);
             test.spoilt(seed);
+            test.tangles(seed);
         }
-        System.out.println(test.taken + " images taken; runs that go on " + test.outcomes[1] + ", returned "
+        System.out.println(test.taken + " images and " + test.tangled + " tangles taken; runs that go on " + test.outcomes[1] + ", returned "
             + test.outcomes[2] + ", uncaught " + test.outcomes[3] + ", no room " + test.outcomes[4] + "; at most "
             + test.longest + " cycles");
         test.due.finish();
@@ -55,6 +57,21 @@ public final class AgainstModelTest {
             if (load(other)) {
                 taken++;
                 standing(other);
+                runs(1);
+            }
+        }
+    }
+
+    /** Short code with jumps and handlers to anywhere, so that it hangs on the order what is bad first. */
+    private void tangles(int seed) {
+        for (int i = 0; i < 100 && due.allAsDue(); i++) {
+            told = "seed " + seed + ", tangle " + i + ": ";
+            int[] image = Tangles.image(seed * 100L + i);
+            x = new SteadyMachine();
+            y = new Model();
+            if (load(image)) {
+                tangled++;
+                standing(image);
                 runs(1);
             }
         }

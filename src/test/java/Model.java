@@ -393,18 +393,18 @@ final class Model {
         come(m, 0, before, marked);
         while (!marked.isEmpty()) {
             int p = marked.pollFirst();
-            Standing now = m.stands.get(p).copy();
             for (int[] h : m.handlers) {
                 if (h[0] <= p && p < h[1]) {
                     if (m.stack == 0) {
                         throw new Wrong(p);
                     }
-                    Standing caught = now.copy();
+                    Standing caught = m.stands.get(p).copy();
                     caught.stack.clear();
                     caught.stack.add(h[2] + 1);
                     come(m, h[3], caught, marked);
                 }
             }
+            Standing now = m.stands.get(p).copy();
             int op = m.code[p];
             if (!apply(m, p, now) || now.stack.size() > m.stack) {
                 throw new Wrong(p);

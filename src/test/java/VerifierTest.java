@@ -15,6 +15,7 @@ public final class VerifierTest {
         endings();
         heights();
         handlers();
+        handlersAtThemselves();
         meeting();
         firstBad();
         askedWrongly();
@@ -318,6 +319,38 @@ public final class VerifierTest {
         SteadyMachine w = new SteadyMachine();
         DUE.due("dead code", withOthers(kinds().method(0, 0, dead).handler("from", "to", 0, "from")).load(w) > 0, true);
         DUE.due("nothing came there", w.stands(0, 1, 0, 0), -1);
+    }
+
+    /** A handler's place may be the instruction that it covers: the instruction is done with what stands there then. */
+    private static void handlersAtThemselves() {
+        // Both LENGTH, of a row and a class, and ADD, to which the other handler comes, are bad: LENGTH is done first.
+        Code row = new Code().number(1).op(Op.ROW, 0).jump(Op.GOTO, "self").mark("add").op(Op.ADD, Op.RETURN)
+            .mark("self").op(Op.LENGTH).mark("to").op(Op.OUT, Op.RETURN);
+        Maker length = kinds().method(0, 2, row).handler("self", "to", 0, "self").handler("self", "to", 0, "add");
+        DUE.due("a row and a class", withOthers(length).load(new SteadyMachine()),
+            -10003 - length.codePlace(0) - row.placeOf("self"));
+        Maker turned = kinds().method(0, 2, row).handler("self", "to", 0, "add").handler("self", "to", 0, "self");
+        DUE.due("by the second handler", withOthers(turned).load(new SteadyMachine()),
+            -10003 - turned.codePlace(0) - row.placeOf("self"));
+
+        // GET of class 1 would come to "to" with another height, which is bad there; of class 0 it is bad itself.
+        Code get = new Code().op(Op.IN).jumpIf(Op.IF, Op.EQ, "to").op(Op.NEW, 1)
+            .mark("self").op(Op.GET, 1, 3).mark("to").op(Op.RETURN);
+        Maker classes = withOthers(kinds().method(0, 2, get).handler("self", "to", 2, "self"));
+        DUE.due("two classes", classes.load(new SteadyMachine()),
+            -10003 - classes.codePlace(0) - get.placeOf("self"));
+
+        // What stands there is bad as it meets, before the instruction is done and before other handlers come.
+        Code number = new Code().op(Op.IN).mark("self").op(Op.NEW, 0).mark("to").op(Op.RETURN);
+        Maker met = withOthers(kinds().method(0, 1, number).handler("self", "to", 0, "self"));
+        DUE.due("an int and a class", met.load(new SteadyMachine()), -10003 - met.codePlace(0) - 1);
+
+        // The instruction still fits: what stands behind it is told by what both are.
+        Code store = new Code().op(Op.NEW, 1).mark("self").op(Op.STORE, 0).mark("to").op(Op.RETURN);
+        SteadyMachine x = new SteadyMachine();
+        DUE.due("it fits", withOthers(kinds().method(1, 1, store).handler("self", "to", 2, "self")).load(x) > 0, true);
+        DUE.due("what stands there", x.stands(0, store.placeOf("self"), 2, 0), A);
+        DUE.due("what stands behind", x.stands(0, store.placeOf("to"), 1, 0), A);
     }
 
     private static void meeting() {
