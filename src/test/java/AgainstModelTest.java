@@ -21,8 +21,9 @@ public final class AgainstModelTest {
             test.spoilt(seed);
             test.tangles(seed);
         }
-        System.out.println(test.taken + " images and " + test.tangled + " tangles taken; runs that go on " + test.outcomes[1] + ", returned "
-            + test.outcomes[2] + ", uncaught " + test.outcomes[3] + ", no room " + test.outcomes[4] + "; at most "
+        System.out.println(test.taken + " images and " + test.tangled + " tangles taken; runs that go on "
+            + test.outcomes[1] + ", returned " + test.outcomes[2]
+            + ", uncaught " + test.outcomes[3] + ", no room " + test.outcomes[4] + "; at most "
             + test.longest + " cycles");
         test.due.finish();
     }
@@ -168,7 +169,8 @@ public final class AgainstModelTest {
                 due.due(call, x.value(f, k, path, what), y.value(f, k, path, what));
             }
             long length = Math.max(y.value(f, k, path, 1), y.value(f, k, path, 2));
-            long part = random.nextInt(4) == 0 ? random.nextInt(4096) : random.nextInt((int) Math.max(1, Math.min(4095, length + 2)));
+            int most = (int) Math.max(1, Math.min(4095, length + 2));
+            long part = random.nextInt(4) == 0 ? random.nextInt(4096) : random.nextInt(most);
             path |= part << 12 * i;
         }
     }

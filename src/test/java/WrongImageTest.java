@@ -1,19 +1,14 @@
-import java.util.ArrayList;
 import java.util.Arrays;
-import java.util.HashMap;
-import java.util.List;
-import java.util.Map;
 
 /** Promise 3: which byte of an image is wrong. */
 public final class WrongImageTest {
     private static final Due DUE = new Due();
-    private final List<Integer> bytes = new ArrayList<>();
-    private final Map<String, Integer> names = new HashMap<>();
+    private final Parts parts = new Parts();
 
     public static void main(String[] args) {
         WrongImageTest whole = new WrongImageTest();
         whole.make();
-        DUE.due("the image itself", whole.answer(), 14);
+        DUE.due("the image itself", whole.parts.answer(), 14);
         whole.ranges();
         whole.codes();
         whole.ends();
@@ -25,12 +20,8 @@ public final class WrongImageTest {
         DUE.finish();
     }
 
-    private WrongImageTest add(String name, int... some) {
-        names.put(name, bytes.size());
-        for (int b : some) {
-            bytes.add(b);
-        }
-        return this;
+    private Parts add(String name, int... some) {
+        return parts.add(name, some);
     }
 
     /** Three classes, three methods: the first calls and sends; two are in slot 3 of class 0 and class 1 below it. */
@@ -52,22 +43,16 @@ public final class WrongImageTest {
         add("first", 0);
     }
 
-    private int answer() {
-        return answer(bytes.stream().mapToInt(Integer::intValue).toArray());
-    }
-
     private static int answer(int[] image) {
-        return Maker.load(new SteadyMachine(), image);
+        return Parts.answer(image);
     }
 
     private int[] with(String name, int offset, int b) {
-        int[] image = bytes.stream().mapToInt(Integer::intValue).toArray();
-        image[names.get(name) + offset] = b;
-        return image;
+        return parts.with(name, offset, b);
     }
 
     private void wrongWith(String name, int offset, int b) {
-        DUE.due(name + " + " + offset + " = " + b, answer(with(name, offset, b)), -3 - names.get(name) - offset);
+        DUE.due(name + " + " + offset + " = " + b, answer(with(name, offset, b)), -3 - parts.placeOf(name) - offset);
     }
 
     private void fineWith(String name, int offset, int b) {
@@ -120,7 +105,7 @@ public final class WrongImageTest {
         wrongWith("STORE", 1, 2);
         wrongWith("LOAD", 1, 2);
         wrongWith("SEND", 1, 3);
-        DUE.due("a class without the slot", answer(with("SEND", 1, 2)), -3 - names.get("SEND") - 2);
+        DUE.due("a class without the slot", answer(with("SEND", 1, 2)), -3 - parts.placeOf("SEND") - 2);
         wrongWith("SEND", 2, 2);
         wrongWith("SEND", 2, 16);
         wrongWith("IF", 1, 6);
@@ -133,7 +118,7 @@ public final class WrongImageTest {
     }
 
     private void ends() {
-        int[] image = bytes.stream().mapToInt(Integer::intValue).toArray();
+        int[] image = parts.image();
         for (int n = 0; n < image.length; n++) {
             DUE.due("the first " + n + " bytes", answer(Arrays.copyOf(image, n)), -3 - n);
         }
@@ -150,34 +135,34 @@ public final class WrongImageTest {
         // Class 1 tells slot 3 anew: other parameters and another type that is given are wrong there.
         wrongAt("told 1", with("param 2", 0, 1));
         wrongAt("told 1", with("gives 2", 0, 64));
-        DUE.due("a place of IF", answer(with("IF", 3, 1)), -3 - names.get("IF") - 2);
-        DUE.due("a place of GOTO", answer(with("GOTO", 2, 22)), -3 - names.get("GOTO") - 1);
-        DUE.due("the end is no place of a jump", answer(with("GOTO", 2, 27)), -3 - names.get("GOTO") - 1);
+        DUE.due("a place of IF", answer(with("IF", 3, 1)), -3 - parts.placeOf("IF") - 2);
+        DUE.due("a place of GOTO", answer(with("GOTO", 2, 22)), -3 - parts.placeOf("GOTO") - 1);
+        DUE.due("the end is no place of a jump", answer(with("GOTO", 2, 27)), -3 - parts.placeOf("GOTO") - 1);
         wrongWith("GOTO", 1, 1);
-        DUE.due("from", answer(with("from", 1, 1)), -3 - names.get("from"));
-        DUE.due("from is to", answer(with("to", 1, 0)), -3 - names.get("from"));
-        DUE.due("to", answer(with("to", 1, 20)), -3 - names.get("to"));
-        DUE.due("to behind the end", answer(with("to", 1, 28)), -3 - names.get("to"));
-        DUE.due("a handler's place", answer(with("place", 1, 27)), -3 - names.get("place"));
+        DUE.due("from", answer(with("from", 1, 1)), -3 - parts.placeOf("from"));
+        DUE.due("from is to", answer(with("to", 1, 0)), -3 - parts.placeOf("from"));
+        DUE.due("to", answer(with("to", 1, 20)), -3 - parts.placeOf("to"));
+        DUE.due("to behind the end", answer(with("to", 1, 28)), -3 - parts.placeOf("to"));
+        DUE.due("a handler's place", answer(with("place", 1, 27)), -3 - parts.placeOf("place"));
         fineWith("to", 1, 21);
     }
 
     private void wrongAt(String name, int[] image) {
-        DUE.due("wrong at " + name, answer(image), -3 - names.get(name));
+        DUE.due("wrong at " + name, answer(image), -3 - parts.placeOf(name));
     }
 
     /** What is wrong as it is read comes before what is wrong by what stands behind it. */
     private void order() {
         int[] image = with("told 0", 0, 9);
-        image[names.get("first")] = 77;
+        image[parts.placeOf("first")] = 77;
         wrongAt("first", image);
         int[] places = with("place", 1, 99);
-        places[names.get("GOTO") + 2] = 99;
-        DUE.due("the first place", answer(places), -3 - names.get("GOTO") - 1);
+        places[parts.placeOf("GOTO") + 2] = 99;
+        DUE.due("the first place", answer(places), -3 - parts.placeOf("GOTO") - 1);
         int[] call = with("GET", 0, 35);
-        call[names.get("GET") + 1] = 3;
-        call[names.get("GET") + 2] = 4;
-        DUE.due("no method", answer(call), -3 - names.get("GET") - 1);
+        call[parts.placeOf("GET") + 1] = 3;
+        call[parts.placeOf("GET") + 2] = 4;
+        DUE.due("no method", answer(call), -3 - parts.placeOf("GET") - 1);
     }
 
     /** The length of code is 1 .. 1,000: the first of its bytes that cannot stand there is wrong. */
