@@ -1,7 +1,7 @@
 /** Counts the answers that are not the ones due, and tells them. */
 final class Due {
     private static final int TOLD_MOST = 50;
-    private int asked;
+    private long asked;
     private int wrong;
 
     void due(String call, long got, long want) {

@@ -7,6 +7,7 @@ import java.lang.reflect.Modifier;
 import java.nio.file.Files;
 import java.nio.file.Path;
 import java.util.Arrays;
+import java.util.List;
 import java.util.Set;
 import java.util.TreeSet;
 import java.util.regex.Matcher;
@@ -25,6 +26,7 @@ public final class LanguageTest {
         face();
         nested();
         source();
+        lengths();
         room();
         DUE.finish();
     }
@@ -65,6 +67,11 @@ public final class LanguageTest {
             long fields = Arrays.stream(one.getDeclaredFields()).filter(f -> !Modifier.isStatic(f.getModifiers()))
                 .count();
             DUE.due(one + " has some twenty fields", fields <= 20, true);
+            for (Method m : one.getDeclaredMethods()) {
+                boolean named = FACE.stream().anyMatch(f -> f.contains(" " + m.getName() + "("));
+                DUE.due(m + " has the name of a public one", named, false);
+                DUE.due(m + " takes at most seven", m.getParameterCount() <= 7, true);
+            }
             for (Field f : one.getDeclaredFields()) {
                 boolean fine = !Modifier.isStatic(f.getModifiers()) || Modifier.isFinal(f.getModifiers());
                 DUE.due(f + " is final, if static", fine, true);
@@ -85,6 +92,22 @@ public final class LanguageTest {
         while (imports.find()) {
             DUE.due("import of " + imports.group(1), imports.group(1).equals("java.util.Arrays"), true);
         }
+    }
+
+    /** A method ends at the first line that closes at the column where it began. */
+    private static void lengths() throws IOException {
+        List<String> lines = Files.readAllLines(Path.of("src/main/java/SteadyMachine.java"));
+        Pattern begins = Pattern.compile("((?: {4}){1,2})(?!if|for|while|switch|else)\\w[\\w\\[\\] ]*\\([^;]*\\) \\{");
+        int methods = 0;
+        for (int i = 0; i < lines.size(); i++) {
+            Matcher method = begins.matcher(lines.get(i));
+            if (method.matches()) {
+                methods++;
+                int end = i + lines.subList(i, lines.size()).indexOf(method.group(1) + "}");
+                DUE.due("line " + (i + 1) + ": a method of some sixty lines", end - i < 60, true);
+            }
+        }
+        DUE.due("methods are found", methods > 100, true);
     }
 
     /** 7.3 million fields and elements of at most eight bytes; the dearest starts, each asking for more cells. */
